@@ -64,7 +64,7 @@ public final class TermReader {
         parts = new Parts(names);
         tokens = new Tokens(source, names);
         parser = new Parser(tokens, operators, parts);
-        writer = new Writer(output, operators, parts);
+        writer = new Writer(output, names, operators, parts);
         roots = new int[TERMS_MOST];
         rootsUsed = 0;
     }
@@ -459,7 +459,8 @@ public final class TermReader {
         }
 
         boolean isInfix(int slot) {
-            return isSlot(slot) && !isPrefix(slot) && !isPostfix(slot);
+            int type = type(slot);
+            return type == XFX || type == XFY || type == YFX;
         }
 
         /** Whether what stands behind its name may be of its own priority. */
@@ -624,16 +625,16 @@ public final class TermReader {
             int c = source.at(position);
             int next = source.at(position + 1);
             if (Chars.isSmall(c)) {
-                return addPlainName(behindWord());
+                return addPlainName(behindRow(false));
             }
             if (Chars.isLarge(c) || c == '_') {
-                return addVariable(behindWord());
+                return addVariable(behindRow(false));
             }
             if (Chars.isDigit(c)) {
                 return addInteger(c, next);
             }
             if (Chars.isSign(c)) {
-                int end = behindSigns();
+                int end = behindRow(true);
                 return isEnd(end) ? add(END, end, 0, 1, 0L) : addPlainName(end);
             }
             if (c == '\'') {
@@ -666,18 +667,11 @@ public final class TermReader {
             return true;
         }
 
-        private int behindWord() {
+        /** Where the row of signs, or else of letters, digits and _, ends that begins here. */
+        private int behindRow(boolean signs) {
             for (int i = position; i < source.length(); i++) {
-                if (!Chars.isWord(source.at(i))) {
-                    return i;
-                }
-            }
-            return source.length();
-        }
-
-        private int behindSigns() {
-            for (int i = position; i < source.length(); i++) {
-                if (!Chars.isSign(source.at(i))) {
+                int c = source.at(i);
+                if (signs ? !Chars.isSign(c) : !Chars.isWord(c)) {
                     return i;
                 }
             }
@@ -900,16 +894,14 @@ public final class TermReader {
         }
 
         boolean isNamed(int part) {
-            return kind(part) == ATOM || kind(part) == COMPOUND;
-        }
-
-        int nameCharacter(int part, int i) {
-            return i >= 0 && i < nameSize(part) ? names.at(value(part) + i) : NONE;
+            int kind = kind(part);
+            return kind == ATOM || kind == COMPOUND;
         }
 
         /** The packed name of an atom or compound one that may be an operator, else 0. */
         long key(int part) {
-            return isNamed(part) ? Packed.ofRow(names, value(part), nameSize(part)) : 0L;
+            int kind = kind(part);
+            return kind == ATOM || kind == COMPOUND ? Packed.ofRow(names, value(part), nameSize(part)) : 0L;
         }
 
         int arity(int part) {
@@ -1010,7 +1002,7 @@ public final class TermReader {
                 return false;
             }
             for (int i = 0; i < size; i++) {
-                if (nameCharacter(a, i) != nameCharacter(b, i)) {
+                if (names.at(value(a) + i) != names.at(value(b) + i)) {
                     return false;
                 }
             }
@@ -1239,11 +1231,13 @@ public final class TermReader {
     /** Writes a term by the operators that there are now. */
     private static final class Writer {
         private final CharRow output;
+        private final CharRow names;
         private final Operators operators;
         private final Parts parts;
 
-        Writer(CharRow output, Operators operators, Parts parts) {
+        Writer(CharRow output, CharRow names, Operators operators, Parts parts) {
             this.output = output;
+            this.names = names;
             this.operators = operators;
             this.parts = parts;
         }
@@ -1326,18 +1320,23 @@ public final class TermReader {
                 return;
             }
             operand(first, leftMost(first, slot), level + 1);
-            if (parts.key(part) == COMMA) {
-                output.add(',');
-            } else {
+            if (operators.isPostfix(slot)) {
                 output.add(' ');
                 name(part);
+                return;
             }
-            if (operators.isInfix(slot)) {
-                if (parts.key(part) != COMMA) {
-                    output.add(' ');
-                }
-                operand(parts.second(part), operators.rightMost(slot), level + 1);
+            infixName(part);
+            operand(parts.second(part), operators.rightMost(slot), level + 1);
+        }
+
+        private void infixName(int part) {
+            if (parts.key(part) == COMMA) {
+                output.add(',');
+                return;
             }
+            output.add(' ');
+            name(part);
+            output.add(' ');
         }
 
         /** An operator that is open behind would take the name behind its argument, of the same priority, into it. */
@@ -1401,12 +1400,14 @@ public final class TermReader {
         }
 
         private void name(int part) {
-            boolean quotes = !isPlain(part);
+            int start = parts.value(part);
+            int size = parts.nameSize(part);
+            boolean quotes = !isPlain(start, size);
             if (quotes) {
                 output.add('\'');
             }
-            for (int i = 0; i < parts.nameSize(part); i++) {
-                int c = parts.nameCharacter(part, i);
+            for (int i = 0; i < size; i++) {
+                int c = names.at(start + i);
                 int escape = quotes ? escapeOf(c) : NONE;
                 if (escape != NONE) {
                     output.add('\\');
@@ -1433,10 +1434,9 @@ public final class TermReader {
         }
 
         /** Whether a name can do without quotes. */
-        private boolean isPlain(int part) {
-            int size = parts.nameSize(part);
-            int first = parts.nameCharacter(part, 0);
-            int second = parts.nameCharacter(part, 1);
+        private boolean isPlain(int start, int size) {
+            int first = size > 0 ? names.at(start) : NONE;
+            int second = size > 1 ? names.at(start + 1) : NONE;
             if (size == 1 && (first == '!' || first == ';')) {
                 return true;
             }
@@ -1444,24 +1444,17 @@ public final class TermReader {
                 return true;
             }
             if (Chars.isSmall(first)) {
-                return isWord(part);
+                return isRow(start, size, false);
             }
             boolean readsOtherwise = size == 1 && first == '.' || first == '/' && second == '*';
-            return size > 0 && !readsOtherwise && isSigns(part);
+            return size > 0 && !readsOtherwise && isRow(start, size, true);
         }
 
-        private boolean isWord(int part) {
-            for (int i = 0; i < parts.nameSize(part); i++) {
-                if (!Chars.isWord(parts.nameCharacter(part, i))) {
-                    return false;
-                }
-            }
-            return true;
-        }
-
-        private boolean isSigns(int part) {
-            for (int i = 0; i < parts.nameSize(part); i++) {
-                if (!Chars.isSign(parts.nameCharacter(part, i))) {
+        /** Whether it is a row of signs, or else of letters, digits and _. */
+        private boolean isRow(int start, int size, boolean signs) {
+            for (int i = 0; i < size; i++) {
+                int c = names.at(start + i);
+                if (signs ? !Chars.isSign(c) : !Chars.isWord(c)) {
                     return false;
                 }
             }

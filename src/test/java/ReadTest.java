@@ -16,6 +16,7 @@ public final class ReadTest {
         depths();
         whatIsLeft();
         mostTerms();
+        mostNames();
         mostParts();
         Due.close();
     }
@@ -347,6 +348,26 @@ public final class ReadTest {
         Due.same("count(0)", x.count(0), 0);
         Due.same("write(39)", Due.write(x, 39), "t39");
         Due.same("write(0)", Due.write(x, 0), "t0");
+    }
+
+    /** The names of 40 terms that fill the text are all kept. */
+    private static void mostNames() {
+        TermReader x = new TermReader();
+        String full = "'a b'(" + Due.repeat("a", 24) + "," + Due.repeat("b", 24) + "," + Due.repeat("c", 24) + ","
+            + Due.repeat("d", 24) + "," + Due.repeat("e", 10) + ")";
+        Due.reads(x, full + ".", full);
+        for (int i = 1; i < 40; i++) {
+            Due.same("again()", x.again(), true);
+            Due.same("count(0)", x.count(0), 120);
+            Due.same("read()", Due.read(x), String.valueOf(i));
+        }
+        Due.same("again()", x.again(), true);
+        Due.same("the 41st", Due.read(x), "throws IndexOutOfBoundsException");
+        Due.same("count(0)", x.count(0), 120);
+        for (int i = 0; i < 40; i++) {
+            Due.same("alike", x.alike(0, i), true);
+            Due.same("write", Due.write(x, i), full);
+        }
     }
 
     private static void mostParts() {

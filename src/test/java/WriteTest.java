@@ -29,7 +29,7 @@ public final class WriteTest {
             Due.reads("f('" + name.replace("\\", "\\\\") + "').", "f(" + name + ")");
         }
         for (String name : new String[] {"", "A", "_", "1", "a b", ".", "/*", "/*+", "a+", "+a", "[", "]", "[]a", "!!", ";;", ",",
-            "|", "(", "{", " ", "a.", "\"", "%", "`", "aé".substring(0, 1) + "-"}) {
+            "|", "(", "{", " ", "a.", "\"", "%", "`", "a-"}) {
             Due.reads("f('" + name + "').", "f('" + name + "')");
             Due.reads("'" + name + "'(a).", "'" + name + "'(a)");
         }
