@@ -212,7 +212,7 @@ public final class TermReader {
         }
 
         static boolean isWord(int c) {
-            return isSmall(c) || isLarge(c) || isDigit(c) || c == '_';
+            return c >= 'a' && c <= 'z' || c >= 'A' && c <= 'Z' || c >= '0' && c <= '9' || c == '_';
         }
 
         static boolean isSign(int c) {
@@ -562,7 +562,7 @@ public final class TermReader {
         }
 
         boolean isMark(int i, int c) {
-            return kind(i) == PUNCTUATION && value(i) == c;
+            return isToken(i) && kinds[i] == PUNCTUATION && values[i] == c;
         }
 
         private boolean isNextTo(int i) {

@@ -4,15 +4,21 @@ import java.util.function.Supplier;
 final class Due {
     private static int judged = 0;
     private static int wrong = 0;
+    private static String sentence = "";
 
     private Due() {
+    }
+
+    /** The sentence of the document that the judgements from here on hold the class to. */
+    static void says(String words) {
+        sentence = "\"" + words + "\": ";
     }
 
     static void same(String what, Object got, Object want) {
         judged++;
         if (!want.equals(got)) {
             wrong++;
-            System.out.println(what + " answered " + got + ", due is " + want);
+            System.out.println(sentence + what + " answered " + got + ", due is " + want);
         }
     }
 
@@ -90,6 +96,20 @@ final class Due {
         return t.startsWith("throws") ? t : write(x, Integer.parseInt(t));
     }
 
+    /** What a text reads as on a new object: the answers of look() for 0, 1 and 2; or what read throws. */
+    static String looks(String text) {
+        TermReader x = new TermReader();
+        if (!put(x, text)) {
+            return "the text is refused";
+        }
+        String t = read(x);
+        return t.startsWith("throws") ? t : x.look(0, 0) + " " + x.look(0, 1) + " " + x.look(0, 2);
+    }
+
+    static void looks(String text, String want) {
+        same(text, looks(text), want);
+    }
+
     static void reads(TermReader x, String text, String want) {
         same(text, term(x, text), want);
     }
@@ -100,6 +120,19 @@ final class Due {
 
     static void isError(String text) {
         reads(text, "throws IllegalArgumentException");
+    }
+
+    static void isError(TermReader x, String text) {
+        reads(x, text, "throws IllegalArgumentException");
+    }
+
+    /** All that a text can hold, in the order of their codes. */
+    static String characters() {
+        StringBuilder all = new StringBuilder();
+        for (char c = 32; c <= 126; c++) {
+            all.append(c);
+        }
+        return all.toString();
     }
 
     static String repeat(String s, int n) {
