@@ -13,6 +13,8 @@ public final class CallEdgesTest {
         readOutOfTheText();
         readFortyTerms();
         readSixHundredParts();
+        refusedAgainAndAgain();
+        wrongAgainAndAgain();
         partsOfEachKind();
         write();
         written();
@@ -215,6 +217,14 @@ public final class CallEdgesTest {
         Due.says("Of several exceptions that hold the first one listed is thrown");
         Due.put(x, "a");
         Due.same("a.a", Due.read(x), WRONG);
+        String t = "\"abcdefghijk\"";
+        String longest = "f(" + Due.repeat(s + ",", 5) + "g(" + t + "," + t + ",\"abcdefg\")).";
+        Due.put(x, longest);
+        Due.same("788 parts", Due.read(x), NO_ROOM);
+        Due.same("count(0)", x.count(0), longest.length());
+        Due.same("count(2)", x.count(2), 600);
+        Due.put(x, ".");
+        Due.same("788 parts, but no END", Due.read(x), WRONG);
         Due.same("count(0)", x.count(0), 0);
         Due.put(x, "f(" + Due.repeat(s + ",", 6) + s + ").");
         Due.same("seven arguments", Due.read(x), WRONG);
@@ -222,6 +232,45 @@ public final class CallEdgesTest {
         Due.same("15 deep", Due.read(x), WRONG);
         Due.same("count(2)", x.count(2), 600);
         Due.same("alike(0, 2)", x.alike(0, 2), true);
+    }
+
+    private static void refusedAgainAndAgain() {
+        Due.says("what throws changes nothing but as said");
+        TermReader x = new TermReader();
+        Due.reads(x, "small(X).", "small(_0)");
+        for (int i = 0; i < 3; i++) {
+            Due.put(x, "f(" + Due.repeat("\"abcdefghijkl\",", 5) + "\"abcdefghijkl\").");
+            Due.read(x);
+        }
+        Due.put(x, "f(" + Due.repeat("\"abcdefghijkl\",", 5) + "\"abcdefg\").");
+        Due.same("read()", Due.read(x), "4");
+        Due.same("count(2)", x.count(2), 596);
+        Due.put(x, Due.repeat("a", 24) + "," + Due.repeat("b", 24) + "," + Due.repeat("c", 24) + "," + Due.repeat("d", 24) + ".");
+        for (int i = 0; i < 80; i++) {
+            Due.same("603 parts", Due.read(x), NO_ROOM);
+        }
+        Due.same("count(0)", x.count(0), 100);
+        Due.same("again()", x.again(), true);
+        Due.same("598 parts", Due.read(x), "5");
+        Due.same("alike(0, 5)", x.alike(0, 5), true);
+        Due.same("write(5)", Due.write(x, 5), "small(_0)");
+    }
+
+    private static void wrongAgainAndAgain() {
+        Due.says("what throws changes nothing but as said");
+        TermReader x = new TermReader();
+        Due.op(x, 300, 2, "oooo");
+        Due.put(x, "a" + Due.repeat(" oooo b", 12) + ".");
+        Due.read(x);
+        // From now on it is written with more brackets than can be read.
+        Due.op(x, 300, 1, "oooo");
+        x.write(0);
+        for (int i = 0; i < 200; i++) {
+            Due.same("again()", x.again(), true);
+            Due.same("eleven brackets", Due.read(x), WRONG);
+        }
+        Due.reads(x, "small(x).", "small(x)");
+        Due.same("count(1)", x.count(1), 2);
     }
 
     private static void partsOfEachKind() {
@@ -387,6 +436,13 @@ public final class CallEdgesTest {
         Due.looks("{a}.", "3 1 2");
         Due.looks("a:-b.", "3 2 2");
         Due.looks(Due.repeat("a", 24) + "(a).", "3 1 24");
+        Due.says("3: how deep it is (1 without arguments)");
+        for (String text : new String[] {"X", "_", "1", "-1", "a", "''", "[]", "{}", "\"\"", "((a))"}) {
+            TermReader y = new TermReader();
+            Due.put(y, text + ".");
+            Due.same(text, Due.read(y), "0");
+            Due.same(text + ": look(0, 3)", y.look(0, 3), 1);
+        }
     }
 
     private static void count() {

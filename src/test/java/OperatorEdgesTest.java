@@ -10,6 +10,7 @@ public final class OperatorEdgesTest {
         names();
         comma();
         priorityNone();
+        othersStay();
         atFirst();
         for (int type = 0; type < TYPES.length; type++) {
             greatestOfArguments(type);
@@ -127,6 +128,25 @@ public final class OperatorEdgesTest {
             Due.same("count(3)", x.count(3), 14);
             Due.reads(x, "a o.", prefix ? "a o" : WRONG);
             Due.reads(x, "o a.", prefix ? WRONG : "o a");
+        }
+    }
+
+    /** Each infix one at first, with the priority that its left argument may have. */
+    private static void othersStay() {
+        Due.says("Priority 0: it is none (any more)");
+        String[] names = {":-", "->", "=", "<", "is", "+", "-", "*", "/", "^"};
+        int[] lefts = {1199, 1049, 699, 699, 699, 500, 500, 400, 400, 199};
+        for (int out = 0; out < names.length; out++) {
+            for (int i = 0; i < names.length; i++) {
+                TermReader x = new TermReader();
+                Due.op(x, lefts[i], 6, "fits");
+                Due.op(x, lefts[i] + 1, 6, "high");
+                Due.same(names[out] + " out", Due.op(x, 0, 0, names[out]), "told");
+                String behind = " " + names[i] + " b";
+                Due.reads(x, "a fits" + behind + ".", i == out ? WRONG : "a fits" + behind);
+                Due.isError(x, "a high" + behind + ".");
+                Due.same("count(3)", x.count(3), 15);
+            }
         }
     }
 

@@ -12,6 +12,7 @@ public final class TermEdgesTest {
         places();
         prefixes();
         prefixBeforeOthers();
+        prefixPriority();
         infixes();
         postfixes();
         levels();
@@ -232,6 +233,37 @@ public final class TermEdgesTest {
         Due.reads(x, "\\+ - a.", "(\\+) - a");
     }
 
+    private static void prefixPriority() {
+        Due.says("with a term up to its argument's priority: compound, with the operator's priority");
+        Due.isError(":- a:-b.");
+        Due.reads("\\+ a,b.", "\\+ a,b");
+        for (int p = 299; p <= 301; p++) {
+            TermReader x = new TermReader();
+            Due.op(x, p, 4, "pre");
+            Due.op(x, 300, 0, "xfx");
+            Due.op(x, 300, 2, "yfx");
+            Due.op(x, 300, 5, "xf");
+            Due.op(x, 300, 6, "yf");
+            // Of 301 it takes all of that into its argument, of 300 it is a left one where the type has y.
+            String whole = "1 argument, name of 3";
+            Due.same("pre a xfx b", outermost(x, "pre a xfx b."), p == 300 ? WRONG : p == 301 ? whole : "2 argument, name of 3");
+            Due.same("pre a yfx b", outermost(x, "pre a yfx b."), p == 301 ? whole : "2 argument, name of 3");
+            Due.same("pre a xf", outermost(x, "pre a xf."), p == 300 ? WRONG : p == 301 ? whole : "1 argument, name of 2");
+            Due.same("pre a yf", outermost(x, "pre a yf."), p == 301 ? whole : "1 argument, name of 2");
+        }
+    }
+
+    /** Which operator is the outermost one of what a text reads as. */
+    private static String outermost(TermReader x, String text) {
+        Due.put(x, text);
+        String t = Due.read(x);
+        if (t.startsWith("throws")) {
+            return t;
+        }
+        int last = Integer.parseInt(t);
+        return x.look(last, 1) + " argument, name of " + x.look(last, 2);
+    }
+
     private static void infixes() {
         Due.says("an infix operator whose priority p is not above m, l is not above its left argument's");
         Due.reads("a:-b;c.", "a :- b ; c");
@@ -315,6 +347,15 @@ public final class TermEdgesTest {
             Due.put(x, text);
             Due.same(text, Due.read(x), n > 10 ? WRONG : "0");
             Due.same(text + ": count(0)", x.count(0), 0);
+            if (n <= 10) {
+                Due.same(text + " written and read again", writtenAgain(x), true);
+            }
         }
+    }
+
+    private static boolean writtenAgain(TermReader x) {
+        x.write(0);
+        x.again();
+        return Due.read(x).equals("1") && x.alike(0, 1) && x.look(0, 3) == x.look(1, 3);
     }
 }
